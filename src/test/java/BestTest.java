@@ -20,7 +20,16 @@ public final class BestTest {
         x = Due.mast(5);
         Due.ocean(x, "weak 12 p<9");
         Due.due("by 2 and 3 as far, by 4 it breaks", x.spread(), 2);
-        // By sail 1 all of 30 days go, by 2 it goes twice as far a day: 14 days of it would do as well.
+        // Farther in 30 DAYS, though not in 29 or in 31.
+        x = Due.mast(45);
+        Due.ocean(x, "firm 28 p<9");
+        Due.due("sail 1: 30 days of 4; sail 2: 13 of 9", x.spread(), 1);
+        x = Due.mast(55);
+        Due.ocean(x, "firm 34 p<9");
+        Due.due("sail 1: 30 days of 5; sail 2: 14 of 11", x.spread(), 2);
+        x = Due.mast(10);
+        Due.ocean(x, "firm 99 p<9");
+        Due.due("9 is the last", x.spread(), 9);
         x = Due.mast(40);
         Due.ocean(x, "firm 7 p<9");
         Due.due("sail 1: 15 days of 4; sail 2: 4 days of 8", x.spread(), 1);
@@ -68,6 +77,8 @@ public final class BestTest {
         Due.due("nine are enough", x.fewest(1), 7);
         Due.ocean(x, "wind 28");
         Due.due("nine are", x.fewest(1), 9);
+        Due.ocean(x, "wind 29");
+        Due.due("there are no ten", x.fewest(1), -5);
     }
 
     private static void row(String name, MastLeft x, int what, int... due) {
@@ -116,11 +127,26 @@ public final class BestTest {
         x.piece(2, 0, 40);
         x.piece(0, 0, 30);
         row("what breaks does not count", x, 1, 1, 0, -5, 108);
+        row("the last as the foot, the first on top", weakTop(0), 1, 2, 1, 0, 126);
+        row("of six the last three, the last as the foot", weakTop(3), 1, 5, 4, 3, 126);
         x = Due.mast(10, 20, 30);
         x.set(0, 0, 0);
         x.set(1, 0, 0);
         x.set(2, 0, 0);
         row("all of no length", x, 1, 0, -5, -5, 0);
+    }
+
+    /** Behind some of no use: a worn one that bears none, one that bears one more, and a foot that bears both. */
+    private static MastLeft weakTop(int useless) {
+        MastLeft x = new MastLeft();
+        for (int i = 0; i < useless; i++) {
+            x.piece(0, 0, 1);
+        }
+        x.piece(0, 0, 30);
+        x.piece(0, 0, 40);
+        x.piece(2, 0, 60);
+        x.set(useless, 1, 5);
+        return x;
     }
 
     private static void promise18Wrong() {

@@ -134,6 +134,18 @@ public final class DaysTest {
         Due.due("61: which", x.first(1), -5);
         x = new MastLeft();
         x.piece(0, 0, 10);
+        x.hoist(x.piece(3, 5, 50));
+        Due.due("a POLE of v 5", x.first(0), 11);
+        x.lower(1);
+        x.hoist(x.piece(6, 0, 50));
+        Due.due("a TOLD one of no ROW", x.first(0), 6);
+        x.row(2, 2, 9);
+        Due.due("of a ROW for DAY 2 and 6", x.first(0), 7);
+        x.row(2, 3, 9);
+        x.row(2, 0, 9);
+        Due.due("of a ROW for all but 1", x.first(0), 9);
+        x = new MastLeft();
+        x.piece(0, 0, 10);
         x.hoist(x.piece(2, 0, 50));
         x.hoist(0);
         x.set(0, 1, 14);

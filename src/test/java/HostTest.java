@@ -41,6 +41,7 @@ public final class HostTest {
         Due.due("from 1 on", x.judge(0, 1), -5);
         Due.due("from 5 on", x.judge(0, 5), 100);
         Due.due("from -1 on", x.judge(0, -1), 100);
+        Due.due("the last TAPE", x.judge(5, 0), 100);
         Due.due("from the greatest on", x.judge(0, Integer.MAX_VALUE), 100);
         Due.due("from the least on", x.judge(0, Integer.MIN_VALUE), 100);
         x.item(0, 3, 31);
@@ -62,7 +63,7 @@ public final class HostTest {
         x.trim(0, 1);
         x.trim(1, 1);
         Due.ocean(x, "wind 6");
-        x.see(1, 2);
+        x.see(2, 2);
         x.plan(0, 0);
         x.book(1, 10);
         x.pass(2);
@@ -90,6 +91,9 @@ public final class HostTest {
         x.see(-1, 0);
         x.plan(-1, 0);
         x.book(-1, 0);
+        x.see(3, 0);
+        x.plan(4, 3);
+        x.book(2, 3);
         x.pass(20);
         asItWas(x, "undo() again");
     }
@@ -116,6 +120,7 @@ public final class HostTest {
         Due.due(name + ": BOOK", x.count(5), 1);
         Due.due(name + ": PLAN's row", x.ends(0), 5);
         Due.due(name + ": BOOK's row", x.looked(), -5);
+        Due.due(name + ": SEEN's row", x.worn(2, 0), 61);
     }
 
     private static void promise31Undo() {
@@ -201,6 +206,11 @@ public final class HostTest {
         act(x, -1, 0, 5, 0);
         act(x, 0, 1, 5, 5, 11, 10);
         act(x, 0, -1, 5, 0);
+        for (int kind = 1; kind < 6; kind++) {
+            x.piece(kind, 0, 10);
+            act(x, kind, 3, 5, 0);
+            act(x, kind, -1, 5, 0);
+        }
     }
 
     private static void promise34Taken() {
@@ -254,6 +264,12 @@ public final class HostTest {
         Due.due("its last item stays", x.read(0, 59), 7);
         Due.due("made anew", x.tape(0, 3, 60), 1);
         Due.due("all 0", x.read(0, 59), 0);
+        x.item(0, 0, 5);
+        x.tape(0, 3, 60);
+        Due.due("the first too", x.read(0, 0), 0);
+        Due.due("the last TAPE", x.tape(5, 3, 60), 1);
+        Due.due("its item", x.item(5, 0, 5), 1);
+        Due.due("read", x.read(5, 0), 5);
         Due.due("n 0", x.tape(5, 1, 0), 1);
         Due.due("no items", x.item(5, 0, 1), -13);
         Due.due("nothing, whatever n", x.tape(0, -1, -99), 1);

@@ -5,6 +5,7 @@ public final class PiecesTest {
         promise2Piece();
         promise3Of();
         promise3Strength();
+        promise3RowsAreEachOnesOwn();
         promise3AboveAndLoad();
         promise4Set();
         promise5Row();
@@ -134,6 +135,22 @@ public final class PiecesTest {
         }
         for (int day = 0; day < 6; day++) {
             Due.due("TOLD on day " + day, x.of(0, 6), 20 - 4 + 3 + 5 + day % 4);
+            x.pass(1);
+        }
+    }
+
+    private static void promise3RowsAreEachOnesOwn() {
+        MastLeft x = new MastLeft();
+        for (int p = 0; p < 6; p++) {
+            x.piece(6, 0, 10);
+            for (int part = 0; part < 4; part++) {
+                x.row(p, part, p + part);
+            }
+        }
+        for (int day = 0; day < 8; day++) {
+            for (int p = 0; p < 6; p++) {
+                Due.due("TOLD " + p + " on day " + day, x.of(p, 6), 20 + p + day % 4);
+            }
             x.pass(1);
         }
     }
@@ -300,6 +317,14 @@ public final class PiecesTest {
         }
         String full = "firm 99 (p<9|p<9|p<9|p<9|p<9|p<9|p<9|p<9|p<9|p<9|p<9|p<9|p<9|p<9|p<9|p<9|p<9|p<9|p<9|p<9|p<9|p<9|p<9";
         Due.due("100 bytes, too early an end", Due.ocean(new MastLeft(), full.substring(0, 100)), -110);
+        MastLeft x = new MastLeft();
+        Due.due("a whole text", Due.ocean(x, "wind 12;firm 1 p=12"), 0);
+        Due.due("what stood behind the end is gone, a word", Due.ocean(x, "win"), -13);
+        Due.due("a whole text again", Due.ocean(x, "firm 1 p=12"), 1);
+        String[] early = {"firm", "firm ", "firm 1 ", "firm 1 p", "firm 1 p="};
+        for (String text : early) {
+            Due.due("what stood behind the end is gone: " + text, Due.ocean(x, text), -10 - text.length());
+        }
     }
 
     /** PIECE 1 is a BOOM, v 3, LENGTH 45, WEAR 67, on DAY 12: each E, and whether it holds. */
@@ -315,6 +340,18 @@ public final class PiecesTest {
         for (String e : fail) {
             Due.due(e + " fails", heartBy("firm 7 " + e), 20);
         }
+        MastLeft x = new MastLeft();
+        x.piece(0, 0, 50);
+        x.set(0, 1, 60);
+        Due.ocean(x, "firm 1 l=5;firm 2 w=6;firm 4 d=0");
+        Due.due("the tens, cut", x.of(0, 5), 27);
+        x.set(0, 0, 49);
+        x.set(0, 1, 59);
+        Due.due("one less", x.of(0, 5), 24);
+        x.pass(10);
+        Due.due("DAY 10", x.of(0, 5), 24);
+        x.pass(1);
+        Due.due("DAY 11", x.of(0, 5), 20);
         Due.due("all together", heartBy("firm 7 p=1;weak 3 p=1;firm 20 p=2;wind 3;firm 1 d=2"), 25);
     }
 

@@ -45,9 +45,9 @@ public final class PlansTest {
         }
         x.pass(1);
         ends("no plan", x, 0, 50);
-        x.plan(0, 0);
-        x.plan(0, 0);
-        ends("two days", x, 10, 50);
+        x.plan(0, 9);
+        x.plan(0, 9);
+        ends("two days, whatever n", x, 10, 50);
         x.plan(4, 0);
         x.plan(0, 0);
         ends("down", x, 10, 0);
@@ -76,6 +76,13 @@ public final class PlansTest {
         x.plan(3, 2);
         x.plan(0, 0);
         ends("nine stays hold it", x, 10, 106);
+        x.plan(-1, 0);
+        x.plan(1, 2);
+        x.plan(0, 0);
+        ends("sail is not stays: by sail 2 it breaks", x, 0, 0);
+        x.plan(-1, 0);
+        x.plan(2, 1);
+        ends("stays are no piece", x, 0, 50);
     }
 
     private static void promise27Book() {

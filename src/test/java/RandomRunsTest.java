@@ -112,7 +112,8 @@ public final class RandomRunsTest {
     private boolean seenCall() {
         int p = some(0, 6), k = some(0, 2), n = some(0, 21);
         switch (below(11)) {
-            case 0: p = below(5) == 0 ? -1 : some(0, 4); return alike("see " + p + " " + n, mast.see(p, n), model.see(p, n));
+            case 0: p = below(5) == 0 ? -1 : below(3) == 0 ? some(0, 4) : Math.max(0, mast.on(n, 2));
+                return alike("see " + p + " " + n, mast.see(p, n), model.see(p, n));
             case 1: return alike("worn " + p + " " + k, mast.worn(p, k), model.worn(p, k));
             case 2: return alike("can " + p + " " + k, mast.can(p, k), model.can(p, k));
             case 3: n = some(0, 61); return alike("odds " + n + " " + k, mast.odds(n, k), model.odds(n, k));
