@@ -330,9 +330,11 @@ public final class PiecesTest {
     /** PIECE 1 is a BOOM, v 3, LENGTH 45, WEAR 67, on DAY 12: each E, and whether it holds. */
     private static void promise10Tests() {
         String[] hold = {"p=1", "p<2", "p>0", "k=2", "v=3", "v<10", "l=4", "w=6", "d=2", "!p=2", "!!p=1", "p=1|p=2&p=3", "p=2&p=3|p=1",
-            "!p=2&p=1", "(p=1|p=2)&k=2", "!(p=1&p=2)", "!(!(p=1))", "p=2|p=3|p=1", "p=1&k=2&v=3", "v<99", "p=01", "!(p=2|p=3)&v=3"};
+            "!p=2&p=1", "(p=1|p=2)&k=2", "!(p=1&p=2)", "!(!(p=1))", "p=2|p=3|p=1", "p=1&k=2&v=3", "v<99", "p=01", "!(p=2|p=3)&v=3",
+            "p=1&v<4", "p=1&v>2", "p=2|v<4", "p=2|v>2", "v<4&v>2", "v>2&v<4", "v<2|v>2", "v>4|v<4"};
         String[] fail = {"p=2", "p<1", "p>1", "k=0", "v>3", "v<3", "l=45", "l=5", "w=7", "d=1", "d>2", "!p=1", "p=2|p=3&p=1", "p=1&p=2",
-            "(p=1|p=2)&k=3", "!(p=1|p=2)", "!!p=2", "!p=1|p=2", "p=1&(p=2|p=3)", "p=11", "p=2&p=1|p=3"};
+            "(p=1|p=2)&k=3", "!(p=1|p=2)", "!!p=2", "!p=1|p=2", "p=1&(p=2|p=3)", "p=11", "p=2&p=1|p=3",
+            "p=1&v<3", "p=1&v>3", "p=2|v<3", "p=2|v>3", "v<4&v>3", "v>2&v<3", "v<2|v>4", "p=2&v<4", "p=2&v>2"};
         for (String e : hold) {
             Due.due(e + " holds", heartBy("firm 7 " + e), 27);
             Due.due(e + " is weak", heartBy("weak 7 " + e), 13);
