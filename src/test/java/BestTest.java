@@ -5,7 +5,6 @@ public final class BestTest {
         promise17Fewest();
         promise18Farthest();
         promise18Highest();
-        promise18EveryRow();
         promise18Wrong();
         promise19Longest();
         Due.end();
@@ -148,36 +147,6 @@ public final class BestTest {
         x.piece(2, 0, 60);
         x.set(useless, 1, 5);
         return x;
-    }
-
-    /** Each row of six PIECES is once the only one that bears itself; -1 for no PIECE. */
-    private static void promise18EveryRow() {
-        int rows = 0;
-        for (int a = 0; a < 6; a++) {
-            for (int b = -1; b < 6; b++) {
-                for (int c = -1; c < 6; c++) {
-                    if (a == b || a == c || b >= 0 && b == c || b < 0 && c >= 0) {
-                        continue;
-                    }
-                    rows++;
-                    onlyRow(a, b, c);
-                }
-            }
-        }
-        Due.due("rows", rows, 156);
-    }
-
-    private static void onlyRow(int a, int b, int c) {
-        String foot = b < 0 ? "firm 20 p=" + a : c < 0 ? "firm 60 p=" + a : "firm 99 p=" + a + ";firm 1 p=" + a;
-        String middle = b < 0 ? "" : c < 0 ? ";firm 20 p=" + b : ";firm 60 p=" + b;
-        String top = c < 0 ? "" : ";firm 20 p=" + c;
-        MastLeft x = new MastLeft();
-        for (int i = 0; i < 6; i++) {
-            x.piece(0, 0, 40);
-        }
-        x.trim(0, 5);
-        Due.ocean(x, "wind 0;lash 0;" + foot + middle + top);
-        row("the only row: " + a + " " + b + " " + c, x, 1, a, b < 0 ? -5 : b, c < 0 ? -5 : c, b < 0 ? 40 : c < 0 ? 80 : 120);
     }
 
     private static void promise18Wrong() {

@@ -32,7 +32,12 @@ final class Doc {
         return s.replace("```text", " ").replace("`", "").replaceAll("\\s+", " ").trim();
     }
 
+    /** Where the document is not at hand, the tests are run all the same, and their quotes are not looked up. */
     static void open(Path file) throws IOException {
+        if (!Files.exists(file)) {
+            System.out.println("no document at " + file + ": its words are not looked at");
+            return;
+        }
         String doc = plain(Files.readString(file));
         List<String> heads = new ArrayList<>(List.of("==== 1", "==== 2", "==== 3", "Answers:", "The constants:", "Ahead of the calls piece"));
         for (int i = 1; i <= 39; i++) {
@@ -64,16 +69,22 @@ final class Doc {
     /** The test of one sentence, or of a part of one: it looks at one answer at least. */
     static void says(String quote, Runnable test) {
         Due.under(quote);
-        int at = now.text.indexOf(quote);
+        if (now != null) {
+            lookUp(quote);
+        }
         int before = Due.looked();
+        test.run();
+        Due.due("it has a test", Due.looked() > before ? 1 : 0, 1);
+        Due.under("");
+        sentences++;
+    }
+
+    private static void lookUp(String quote) {
+        int at = now.text.indexOf(quote);
         Due.due("it stands in the document", at < 0 ? 0 : 1, 1);
         for (int i = Math.max(at, 0); at >= 0 && i < at + quote.length(); i++) {
             now.tested[i] = true;
         }
-        test.run();
-        Due.due("it has a test", Due.looked() > before + 1 ? 1 : 0, 1);
-        Due.under("");
-        sentences++;
     }
 
     /** Each word that stood in no sentence is told, and is not as due. */

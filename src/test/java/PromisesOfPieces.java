@@ -197,6 +197,12 @@ final class PromisesOfPieces {
         Doc.says("FULL: there are 3.", () -> {
             Probe.keeps("a fourth", Probe::full, x -> x.hoist(1), -4);
             Probe.keeps("a fourth", Probe::full, x -> x.hoist(5), -4);
+            MastLeft x = Due.mast(10, 10, 10);
+            x.piece(0, 0, 10);
+            Due.due("a fourth, and no IMAGE", x.hoist(3), -4);
+            x.image();
+            x.lower(0);
+            Due.due("the first, and three in THE IMAGE", x.hoist(3), 1);
         });
     }
 

@@ -187,7 +187,7 @@ public final class RandomRunsTest {
     }
 
     public static void main(String[] args) {
-        int runs = args.length > 1 ? Integer.parseInt(args[1]) : RUNS;
+        int runs = args.length > 2 ? Integer.parseInt(args[2]) : RUNS;
         for (int run = 0; run < runs; run++) {
             RandomRunsTest r = new RandomRunsTest(run * 7919L + 17);
             boolean bare = run % 4 == 0;

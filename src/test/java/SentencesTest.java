@@ -4,7 +4,7 @@ import java.nio.file.Path;
 /** Each sentence of the document has a test of its own: those of the Terms, and those of the promises. */
 public final class SentencesTest {
     public static void main(String[] args) throws IOException {
-        Doc.open(Path.of(args.length > 1 ? args[1] : "../shared/DOC.md"));
+        Doc.open(Path.of(args[1]));
         TermsOne.all();
         TermsTwo.all();
         TermsThree.all();

@@ -210,6 +210,9 @@ final class TermsOne {
             fails("p=2", "p=2|p=3", "p=2|p=3|p=4", "p=1&p=2", "p=2&p=1", "p=1&p=1&p=2", "p=2&p=1&p=1", "!p=1", "!!p=2", "(p=2)", "!(p=1)");
             holds("p=1|p=2&p=3", "p=2&p=3|p=1", "(p=1|p=2)&v=3", "!p=2|p=1", "!p=2&p=1", "!(p=1&p=2)", "!(p=2|p=3)");
             fails("(p=1|p=2)&p=3", "p=3&(p=1|p=2)", "!(p=1|p=2)", "!p=1|p=2", "!p=1&p=2", "p=2|p=1&p=3", "!(p=1&v=3)");
+            holds("v=3&p=1", "v=3&p<2", "v=3&p>0", "v<4&p=1", "v<4&p<2", "v<4&p>0", "v>2&p=1", "v>2&p<2", "v>2&p>0");
+            fails("v=3&p=0", "v=3&p<1", "v=3&p>1", "v=4&p=1", "v<3&p<2", "v>3&p>0", "v=0|p=0", "v<3|p<1", "v>3|p>1");
+            holds("v=0|p=1", "v<3|p<2", "v>3|p>0", "v=3|p=0", "v<4|p<1", "v>2|p>1");
             reads("firm 1 ()", -18);
             reads("firm 1 !", -18);
             reads("firm 1 p=1|", -21);
@@ -301,12 +304,46 @@ final class TermsOne {
             reads("wi", -12);
             reads("l", -11);
             reads("f", -11);
-            MastLeft x = new MastLeft();
-            Due.due("a whole text", Due.ocean(x, "wind 12;firm 1 p=12"), 0);
-            Due.due("what stood behind the end is gone", Due.ocean(x, "wind"), -14);
-            Due.due("what stood behind the end is gone", Due.ocean(x, "wind 1"), 1);
-            Due.due("a number of one digit", x.told(1), 1);
+            endsTooEarly();
         });
+    }
+
+    /** What stood behind the end in an earlier text is no part of this one; nor is what no text can hold. */
+    private static void endsTooEarly() {
+        String[] wholes = {"firm 12 p=12", "weak 12 (!p=12)", "wind 12", "lash 12", "wind 1;lash 12"};
+        for (String whole : wholes) {
+            for (int end = 0; end <= whole.length(); end++) {
+                MastLeft x = new MastLeft();
+                Due.due("a whole text", Due.ocean(x, whole), 0);
+                String cut = whole.substring(0, end);
+                long due = Due.ocean(new MastLeft(), cut);
+                Due.due("'" + cut + "' ends as if nothing had stood there", Due.ocean(x, cut), due == 0 ? 1 : due);
+                Due.due("'" + cut + "' is whole, or ends too early", due == 0 ? -10 - end : due, -10 - end);
+            }
+        }
+        MastLeft x = new MastLeft();
+        Due.ocean(x, "wind 12");
+        Due.due("a number of one digit", Due.ocean(x, "wind 1"), 1);
+        Due.due("WIND", x.told(1), 1);
+        String[] early = {"|", "&", "|p", "|p<", "|(", "|!", "|(p=1", "|((((p=1)))", ";", ";w", ";wi", ";win", ";wind", ";wind ", ";l", ";las", ";f",
+            ";firm", ";firm 1", ";firm 12", ";firm 1 ", ";weak 9 p", ";weak 9 p>", ";we"};
+        for (String tail : early) {
+            reads(hundred(tail), -110);
+        }
+        String[] whole = {"|p<9", "|p<99", "&(p=1)", "&!!!!p=1", ";wind 1", ";wind 12", ";firm 1 p=1", ";weak 12 (p=12)"};
+        for (String tail : whole) {
+            reads(hundred(tail), 0);
+            reads(hundred(tail + "#"), -109);
+        }
+    }
+
+    /** A text of 100 bytes that ends so. */
+    private static String hundred(String tail) {
+        int left = 90 - tail.length();
+        int five = left % 4;
+        String s = "firm 9 p<9" + "|p<99".repeat(five) + "|p<9".repeat((left - 5 * five) / 4) + tail;
+        Due.due("bytes", s.length(), 100);
+        return s;
     }
 
     private static void heart() {

@@ -154,6 +154,11 @@ final class TermsThree {
                     x.row(1, part, 8);
                 }
             });
+            undone("ROWS of six", TermsThree::sixTold, 6, x -> {
+                for (int i = 0; i < 24; i++) {
+                    x.row(i / 4, i % 4, 9 - i % 10);
+                }
+            });
             undone("v and KIND", Probe::bare, 0, x -> x.piece(6, 6, 6));
             undone("THE MAST, one more", Probe::some, 4, x -> x.hoist(3));
             undone("THE MAST, another order", Probe::full, 6, x -> {
@@ -182,6 +187,17 @@ final class TermsThree {
             });
             whichOceanHolds();
         });
+    }
+
+    private static MastLeft sixTold() {
+        MastLeft x = new MastLeft();
+        for (int i = 0; i < 24; i++) {
+            if (i % 4 == 0) {
+                x.piece(6, i / 4, 10);
+            }
+            x.row(i / 4, i % 4, i % 10);
+        }
+        return x;
     }
 
     private static void whichOceanHolds() {

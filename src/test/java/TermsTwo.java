@@ -1,3 +1,5 @@
+import java.util.function.Consumer;
+
 /** ==== 2 of the document's Terms, all but the ACTS and THE IMAGE: what is asked. */
 final class TermsTwo {
     private static final int[] NO_ROW = {-5, -5, -5, -5};
@@ -44,15 +46,49 @@ final class TermsTwo {
             row.row(0, 3, 9);
             row.row(0, 0, 9);
             Due.due("DAY 10001 is 1 modulo 4", row.first(0), 2);
-            MastLeft wear = Due.mast(50);
-            wear.pass(4);
-            Due.due("from the WEAR that is", wear.first(0), 2);
-            Due.due("from the miles that went", wear.on(2, 0), 10);
+            fromHowAllIs();
             Asks.all("some", Probe::some);
             Asks.all("full", Probe::full);
             Asks.all("late", Probe::late);
             Asks.all("bare", Probe::bare);
         });
+    }
+
+    /** FIRST of a PIECE of 50 feet, which is 6, behind what is done to it. */
+    private static void firstThen(String name, int kind, int v, long due, Consumer<MastLeft> done) {
+        MastLeft x = Due.one(kind, v, 50, 0);
+        x.hoist(0);
+        done.accept(x);
+        Due.due("from " + name, x.first(0), due);
+    }
+
+    private static void fromHowAllIs() {
+        firstThen("a new PIECE", 0, 3, 6, x -> x.trim(0, 1));
+        firstThen("its KIND", 2, 3, 16, x -> x.trim(0, 1));
+        firstThen("its v", 3, 5, 11, x -> x.trim(0, 1));
+        firstThen("its LENGTH", 0, 3, 8, x -> x.set(0, 0, 40));
+        firstThen("its WEAR", 0, 3, 3, x -> x.set(0, 1, 3));
+        firstThen("SAIL", 0, 3, 0, x -> x.trim(0, 2));
+        firstThen("STAYS", 0, 3, 9, x -> x.trim(1, 1));
+        firstThen("the OCEAN that holds", 0, 3, 5, x -> Due.ocean(x, "wind 6"));
+        firstThen("THE MAST", 0, 3, 1, x -> x.hoist(x.piece(0, 0, 27)));
+        firstThen("DAYS that went", 0, 3, 4, x -> x.pass(2));
+        MastLeft went = Due.mast(50);
+        went.pass(4);
+        Due.due("from the miles that went", went.on(2, 0), 10);
+        for (int p = 0; p < 6; p++) {
+            MastLeft row = new MastLeft();
+            for (int i = 0; i <= p; i++) {
+                row.piece(i == p ? 6 : 0, 0, 50);
+            }
+            row.hoist(p);
+            row.set(p, 1, 5);
+            row.row(p, 1, 1);
+            row.row(p, 2, 2);
+            Due.due("from the ROW of PIECE " + p, row.first(0), 3);
+            row.row(p, 3, 9);
+            Due.due("from the ROW of PIECE " + p, row.first(0), 4);
+        }
     }
 
     /** One PIECE of a KIND, 50 feet, that is put up on DAY 9999. */
@@ -178,6 +214,77 @@ final class TermsTwo {
         return x;
     }
 
+    // ---- every row of six PIECES of 40 feet by SAIL 5, which is once the best: 120, 80, 40 are borne from the foot on
+
+    /** Each row of PIECES there is, one by one. */
+    private static void everyRow(Consumer<int[]> test) {
+        int rows = 0;
+        for (int a = 0; a < 6; a++) {
+            test.accept(new int[] {a});
+            for (int b = 0; b < 6; b++) {
+                if (b == a) {
+                    continue;
+                }
+                test.accept(new int[] {a, b});
+                for (int c = 0; c < 6; c++) {
+                    if (c != a && c != b) {
+                        test.accept(new int[] {a, b, c});
+                        rows++;
+                    }
+                }
+                rows++;
+            }
+            rows++;
+        }
+        Due.due("rows", rows, 6 + 30 + 120);
+    }
+
+    private static MastLeft forty(String firm) {
+        MastLeft x = lying("wind 0;lash 0" + firm, 40, 40, 40, 40, 40, 40);
+        x.trim(0, 5);
+        return x;
+    }
+
+    /** The PIECES of the row bear what is upon them for ten DAYS, and no others do. */
+    private static MastLeft bearsForTen(int[] pieces) {
+        String[] firms = {";firm 57 p=%d", ";firm 99 p=%d;firm 34 p=%<d", ";firm 99 p=%d;firm 99 p=%<d;firm 11 p=%<d"};
+        StringBuilder firm = new StringBuilder();
+        for (int i = 0; i < pieces.length; i++) {
+            firm.append(String.format(firms[pieces.length - 1 - i], pieces[i]));
+        }
+        return forty(firm.toString());
+    }
+
+    private static void theRow(String name, MastLeft x, int what, int[] pieces, int much) {
+        row(name + java.util.Arrays.toString(pieces), x, what, pieces[0], pieces.length > 1 ? pieces[1] : -5, pieces.length > 2 ? pieces[2] : -5, much);
+    }
+
+    private static void farthestRow(int[] pieces) {
+        theRow("FARTHEST ", bearsForTen(pieces), 0, pieces, 200 * pieces.length);
+    }
+
+    private static void longestRow(int[] pieces) {
+        MastLeft x = bearsForTen(pieces);
+        for (int i = 1; i <= pieces.length; i++) {
+            x.hoist(pieces[i % pieces.length]);
+        }
+        theRow("LONGEST ", x, 2, pieces, 10);
+        x.lower(pieces[1 % pieces.length]);
+        for (int i = pieces.length - 1; i >= 0; i--) {
+            x.hoist(pieces[i]);
+        }
+        theRow("LONGEST ", x, 2, pieces, 10);
+    }
+
+    private static void highestRow(int[] pieces) {
+        String[] firms = {";firm 20 p=%d", ";firm 60 p=%d", ";firm 99 p=%d;firm 1 p=%<d"};
+        StringBuilder firm = new StringBuilder();
+        for (int i = 0; i < pieces.length; i++) {
+            firm.append(String.format(firms[pieces.length - 1 - i], pieces[i]));
+        }
+        theRow("HIGHEST ", forty(firm.toString()), 1, pieces, 40 * pieces.length);
+    }
+
     private static void farthest() {
         Doc.says("FARTHEST: of all rows of 1 .. 3 PIECES, none twice, that by which, were it THE MAST now, WENT more in 10 DAYS is most", () -> {
             row("60 in 10 DAYS, 66 in 11", lying("lash 99;firm 2 p=0;firm 9 p=1", 60, 30), 0, 0, -5, -5, 36);
@@ -188,6 +295,7 @@ final class TermsTwo {
             row("two", lying("wind 5", 12, 12), 0, 0, 1, -5, 20);
             row("three", lying("wind 5", 12, 12, 12), 0, 0, 1, 2, 30);
             row("three of four, and no fourth", lying("wind 5", 12, 12, 12, 12), 0, 0, 1, 2, 30);
+            everyRow(TermsTwo::farthestRow);
             row("no PIECE", new MastLeft(), 0, NO_ROW);
             MastLeft x = Due.mastIn("lash 99", 9, 10, 9);
             x.pass(1);
@@ -210,6 +318,7 @@ final class TermsTwo {
     private static void highest() {
         Doc.says("HIGHEST: of all such rows that with the greatest HEIGHT, nothing of which BREAKS on the next DAY (of several the first likewise): "
             + "the k-th; HEIGHT.", () -> {
+            everyRow(TermsTwo::highestRow);
             row("no PIECE", new MastLeft(), 1, NO_ROW);
             row("20 bear 20, though not on the DAY behind the next", lying("lash 99", 75), 1, 0, -5, -5, 75);
             row("20 do not bear 21", lying("lash 99", 80), 1, NO_ROW);
@@ -233,6 +342,7 @@ final class TermsTwo {
     private static void longest() {
         Doc.says("LONGEST: of all orders of the PIECES in THE MAST that by which FIRST is latest (none: later than any; "
             + "of several the first as a row of numbers): the k-th; FIRST then (-5: none).", () -> {
+            everyRow(TermsTwo::longestRow);
             row("nothing stands", lying("wind 5", 10, 10), 2, NO_ROW);
             row("one", Due.mast(50), 2, 0, -5, -5, 6);
             row("60 of 0 1, none of 1 0", Due.mastIn("lash 50;firm 56 p=1", 10, 60), 2, 1, 0, -5, -5);
