@@ -6,6 +6,7 @@ import java.lang.reflect.Method;
 import java.lang.reflect.Modifier;
 import java.nio.file.Files;
 import java.nio.file.Path;
+import java.util.HashSet;
 import java.util.Set;
 import java.util.TreeSet;
 import java.util.regex.Matcher;
@@ -19,9 +20,23 @@ public final class RulesTest {
         + "act int int int|trace int|taken int int|count int|tape int int int|item int int long|long read int int|"
         + "shift int int int int int";
 
+    /** Ahead of which calls the interface says what. */
+    private static final String[][] SAID = {
+        {"pieces, oceans, the mast", "piece of set row hoist lower trim feed ocean told"}, {"days", "pass on first port"},
+        {"what is best", "spread fewest best longest"}, {"seen, odds", "see worn can odds mean"}, {"plans, books", "plan ends book looked"},
+        {"judging, the image, acts, tapes", "judge image undo act trace taken count tape item read shift"}};
+    private static final Set<Class<?>> PLAIN = Set.of(int.class, long.class, short.class, byte.class, char.class, boolean.class, String.class,
+        StringBuilder.class, int[].class, long[].class, short[].class, byte[].class, char[].class, boolean[].class);
+    private static final Set<Class<?>> CONSTANT = Set.of(int.class, long.class, boolean.class, char.class, String.class,
+        int[].class, long[].class, char[].class, byte[].class);
+
     public static void main(String[] args) throws IOException {
         face();
-        source(Files.readString(Path.of(args[0])));
+        classes();
+        String source = Files.readString(Path.of(args[0]));
+        said(source);
+        source(source);
+        library(source);
         room();
         anyArguments();
         Due.end();
@@ -66,6 +81,73 @@ public final class RulesTest {
         Due.due("NO", MastLeft.NO, Long.MIN_VALUE);
     }
 
+    /** The classes inside, and what they hold. */
+    private static void classes() {
+        Set<Class<?>> own = new HashSet<>(Set.of(MastLeft.class.getDeclaredClasses()));
+        own.add(MastLeft.class);
+        for (Class<?> c : own) {
+            if (c != MastLeft.class) {
+                Due.due("static: " + c, Modifier.isStatic(c.getModifiers()) ? 1 : 0, 1);
+                Due.due("neither public nor protected: " + c, c.getModifiers() & (Modifier.PUBLIC | Modifier.PROTECTED), 0);
+            }
+            Due.due("classes inside " + c, c == MastLeft.class ? 0 : c.getDeclaredClasses().length, 0);
+            int fields = 0;
+            for (Field f : c.getDeclaredFields()) {
+                boolean still = Modifier.isStatic(f.getModifiers());
+                fields += still ? 0 : 1;
+                Class<?> part = f.getType().isArray() ? f.getType().getComponentType() : f.getType();
+                boolean may = still ? CONSTANT.contains(f.getType()) : PLAIN.contains(f.getType()) || own.contains(part);
+                Due.due("of a type that may be: " + f, may ? 1 : 0, 1);
+                Due.due("no other static state: " + f, still && !Modifier.isFinal(f.getModifiers()) ? 1 : 0, 0);
+            }
+            Due.due("some twenty fields at most: " + c, fields <= 20 ? 1 : 0, 1);
+            for (Method m : c.getDeclaredMethods()) {
+                Due.due("made by javac, for a lambda or the like: " + m, m.isSynthetic() ? 1 : 0, 0);
+            }
+        }
+        Due.due("twelve classes at most: " + own.size(), own.size() <= 12 ? 1 : 0, 1);
+    }
+
+    /** The comments of the interface stand ahead of their calls, and all in the document's order. */
+    private static void said(String source) {
+        int at = 0;
+        for (String[] part : SAID) {
+            at = further(source, "    // ---- " + part[0] + "\n", at);
+            for (String call : part[1].split(" ")) {
+                at = further(source, " " + call + "(", source.indexOf("    public ", at));
+            }
+        }
+    }
+
+    private static int further(String source, String what, int from) {
+        int at = source.indexOf(what, Math.max(from, 0));
+        Due.due("in its place: " + what.trim(), at < 0 || from < 0 ? 1 : 0, 0);
+        return Math.max(at, 0);
+    }
+
+    /** Nothing of the library but what the rules list, and signs 1 to 127 alone. */
+    private static void library(String source) {
+        for (int i = 0; i < source.length(); i++) {
+            if (source.charAt(i) < 1 || source.charAt(i) > 127) {
+                Due.due("a sign of the source, at " + i, source.charAt(i), 127);
+            }
+        }
+        Set<String> may = Set.of("Math.max", "Math.min", "Math.abs", "Math.floorDiv", "Math.floorMod", "System.arraycopy", "Arrays.fill",
+            "Arrays.copyOf", "Arrays.copyOfRange", "Integer.compare", "Long.compare", "Integer.bitCount", "Long.bitCount", "Long.MIN_VALUE");
+        Set<String> own = new HashSet<>(Set.of("MastLeft"));
+        for (Class<?> c : MastLeft.class.getDeclaredClasses()) {
+            own.add(c.getSimpleName());
+        }
+        String code = source.replaceAll("(?s)/\\*.*?\\*/", "").replaceAll("//[^\n]*", "").replaceAll("\"[^\"]*\"", "\"\"");
+        for (Matcher m = Pattern.compile("\\b([A-Z]\\w*[a-z]\\w*)\\b(\\.\\w+)?").matcher(code); m.find();) {
+            boolean known = own.contains(m.group(1)) || m.group().equals("String") || may.contains(m.group());
+            Due.due("what may be used: " + m.group(), known ? 1 : 0, 1);
+        }
+        for (Matcher m = Pattern.compile("(\"|[A-Z]{3,})\\s*\\+\\s*\"|\"\\s*\\+").matcher(code); m.find();) {
+            Due.due("texts joined by +: " + m.group(), 1, 0);
+        }
+    }
+
     private static void source(String source) {
         String code = source.replaceAll("(?s)/\\*.*?\\*/", "").replaceAll("//[^\n]*", "").replaceAll("\"[^\"]*\"", "\"\"");
         String[] banned = {"\\bthrow\\b", "\\btry\\b", "\\bcatch\\b", "\\bsynchronized\\b", "\\bassert\\b", "->", "::", "\\bimport\\b",
@@ -74,11 +156,6 @@ public final class RulesTest {
         for (String ban : banned) {
             Due.due("in the source: " + ban, Pattern.compile(ban).matcher(code).find() ? 1 : 0, 0);
         }
-        int classes = 0;
-        for (Matcher m = Pattern.compile("\\bclass\\b").matcher(code); m.find();) {
-            classes++;
-        }
-        Due.due("twelve classes at most: " + classes, classes <= 12 ? 1 : 0, 1);
         String head = "(?m)^( {4}| {8})(?:public |private |static |final )*(?:\\w+(?:\\[\\])* )?\\w+\\(([^)]*)\\) \\{\n((?s:.*?))^\\1\\}";
         int methods = 0;
         for (Matcher m = Pattern.compile(head).matcher(code); m.find();) {

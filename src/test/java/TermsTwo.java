@@ -517,6 +517,9 @@ final class TermsTwo {
             ends("SAIL 9 breaks it", 0, 0, new int[] {1, 9}, day);
             ends("STAYS 9, SAIL 3", 15, 50, new int[] {2, 9}, new int[] {1, 3}, day);
             ends("STAYS 0 again", 0, 0, new int[] {2, 9}, new int[] {2, 0}, new int[] {1, 3}, day);
+            ends("STAYS 1 is no PIECE", 0, 50, new int[] {2, 1});
+            ends("SAIL 1 is no PIECE, and no STAYS", 0, 50, new int[] {1, 1});
+            ends("a DAY is no SAIL", 10, 50, new int[] {0, 9}, day);
             ends("down", 0, 0, down);
             ends("down, and down", 0, 0, down, down, day);
             ends("a PIECE upon it", 0, 78, new int[] {3, 1});
