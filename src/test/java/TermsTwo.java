@@ -328,6 +328,8 @@ final class TermsTwo {
             row("alike", lying("lash 99", 10, 10, 10), 1, 0, -5, -5, 10);
             row("0 and 0 1 alike", lying("lash 10", 20, 10), 1, 0, -5, -5, 20);
             row("0 1 2, three at most", lying("lash 0", 10, 10, 10, 10), 1, 0, 1, 2, 30);
+            row("there are two: no third upon them takes LASH away", lying("lash 25", 60, 60), 1, 0, -5, -5, 60);
+            row("there is one: no second upon it takes LASH away", lying("lash 25", 90), 1, NO_ROW);
             row("of no LENGTH", lying("lash 99", 1, 1), 1, 0, -5, -5, 1);
             MastLeft x = lying("firm 22 p=2;firm 3 p=0;weak 5 p=1;wind 0;lash 0", 40, 40, 40);
             row("2 0 1 alone holds", x, 1, 2, 0, 1, 120);
